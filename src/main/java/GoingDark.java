@@ -78,8 +78,8 @@ public final class GoingDark {
             case 0: return here.kindOf.at(light);
             case 1: return here.placeOf.at(light);
             case 2: return tonight.darkFor.at(light);
-            case 3: return tonight.mayBehind(0, light) ? 1 : 0;
-            case 4: return tonight.waitOf(light);
+            case 3: return tonight.mayGoDark(light) ? 1 : 0;
+            case 4: return waitOf(light);
             case 5: return tonight.askedOf.at(light);
             case 6: return tonight.noesOf.at(light);
             default: return OUTSIDE;
@@ -383,6 +383,17 @@ public final class GoingDark {
         return some;
     }
 
+    private int waitOf(int light) {
+        dreamtNight.copyFrom(tonight);
+        for (int wait = 0; wait <= LONGEST_WAIT; wait++) {
+            if (dreamtNight.mayGoDark(light)) {
+                return wait;
+            }
+            dreamtNight.passBreath();
+        }
+        return NONE;
+    }
+
     /** A question is 8 times the light, twice the fact, 1 more if turned. */
     private int leftAtWorst(int question, int left) {
         int kind = here.kindOf.at(question / 8);
@@ -546,7 +557,7 @@ public final class GoingDark {
         }
     }
 
-    /** What goes on from breath to breath: an image keeps it, and nights by a seed go on with a copy. */
+    /** What goes on from breath to breath: an image keeps it, and a copy tells how it would go on. */
     private static final class Night {
         private final Strait here;
         private final Row placeOf = new Row(MOST_SHIPS);
@@ -610,7 +621,7 @@ public final class GoingDark {
         boolean answer(int light, int fact, boolean turned) {
             int kind = here.kindOf.at(light);
             boolean yes = saysYes(kind, isTrue(facts, fact, turned), breaths)
-                || (kind == SAINT && !mayBehind(0, light));
+                || (kind == SAINT && !mayGoDark(light));
             askedOf.put(light, askedOf.at(light) + 1);
             if (!yes) {
                 noesOf.put(light, noesOf.at(light) + 1);
@@ -648,38 +659,28 @@ public final class GoingDark {
             }
         }
 
-        /** Whether it is lit so many breaths from now, nobody being asked until then, and may go dark then. */
-        boolean mayBehind(int wait, int light) {
-            return darkFor.at(light) <= wait && lostBehind(wait, 1 << light) <= lostBehind(wait, 0);
-        }
-
-        int waitOf(int light) {
-            for (int wait = 0; wait <= LONGEST_WAIT; wait++) {
-                if (mayBehind(wait, light)) {
-                    return wait;
-                }
-            }
-            return NONE;
+        boolean mayGoDark(int light) {
+            return darkFor.at(light) == 0 && lostBy(1 << light) <= lostBy(0);
         }
 
         int greatestAtOnce() {
             int lit = litNow();
-            int bound = lostBehind(0, 0);
+            int bound = lostBy(0);
             int greatest = 0;
             for (int set = 1; set < 1 << MOST_LIGHTS; set++) {
                 boolean isGreater = Integer.bitCount(set) > Integer.bitCount(greatest);
-                if ((set & ~lit) == 0 && isGreater && lostBehind(0, set) <= bound) {
+                if ((set & ~lit) == 0 && isGreater && lostBy(set) <= bound) {
                     greatest = set;
                 }
             }
             return greatest;
         }
 
-        /** How many are lost in the dark breaths of those who, behind a wait, all go dark. */
-        private int lostBehind(int wait, int goingDark) {
+        /** How many are lost in the next dark breaths if these all go dark now. */
+        private int lostBy(int goingDark) {
             int lost = 0;
             for (int ship = 0; ship < ships; ship++) {
-                if (stateOf.at(ship) == AT_SEA && isLostBehind(ship, wait, goingDark)) {
+                if (stateOf.at(ship) == AT_SEA && isLostBy(goingDark, ship)) {
                     lost++;
                 }
             }
@@ -687,19 +688,16 @@ public final class GoingDark {
         }
 
         /** Nobody is asked meanwhile, so a ship's way is told without going it, and no copy is needed. */
-        private boolean isLostBehind(int ship, int wait, int goingDark) {
+        private boolean isLostBy(int goingDark, int ship) {
             int place = placeOf.at(ship);
-            for (int gone = 1; gone <= wait + here.dark; gone++) {
+            for (int gone = 1; gone <= here.dark; gone++) {
                 place += courseOf.at(ship);
                 if (!isPlace(place)) {
                     return false;
                 }
-                int lit = darkFor.bitsBelow(gone);
-                if (gone > wait) {
-                    lit &= ~goingDark;
-                }
+                int lit = darkFor.bitsBelow(gone) & ~goingDark;
                 if ((here.shiningOn.at(place) & lit) == 0) {
-                    return gone > wait;
+                    return true;
                 }
             }
             return false;

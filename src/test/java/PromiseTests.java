@@ -397,6 +397,12 @@ public final class PromiseTests {
         due("11: a saint that may", y.ask(1, 0, false), 0);
         due("11: a light that should not", y.ask(0, 0, false), 0);
         due("11: a wreck", y.breath(), 1);
+        // now it may not; a breath later it might
+        GoingDark gap = at("s2,l9;11");
+        gap.ship(2, 1);
+        due("11: a saint that may not yet", gap.ask(0, 0, false), 1);
+        gap.breath();
+        due("11: lost either way, so it may", gap.ask(0, 0, false), 0);
         // two saints over one ship: the first goes out, the second may not
         GoingDark z = at("s3,s3;12");
         z.ship(3, 0);
@@ -569,6 +575,12 @@ public final class PromiseTests {
         due("17: one world, the least", x.next(), 0);
         x.hear(1, 3, false, 0, true);
         due("17: no worlds", x.next(), NONE);
+        GoingDark five = at("f1,f2,f3,f4,l5;43");
+        due("17: the last one", five.next(), 32);
+        for (int fact = 0; fact < 3; fact++) {
+            five.hear(4, fact, false, 0, true);
+        }
+        due("17: the last fact", five.next(), 38);
         GoingDark y = at("l5,i0;43");
         y.ask(0, 0, false);
         due("17: a liar tells as well", y.next(), 8);
@@ -663,10 +675,17 @@ public final class PromiseTests {
         due("21: all as it was", x.digest() == then ? 1 : 0, 1);
         due("21: the third ship is gone", x.shipOf(2, 0), UNKNOWN);
         due("21: and comes again", x.ship(0, 0), 2);
+        x.restore();
         x.forget();
+        x.hear(3, 2, true, 2, true);
+        x.ship(0, 1);
         x.restore();
         due("21: heard is back", x.worlds(0), 8);
+        due("21: heard is back, by whom of what", x.worlds(3), 14);
         due("21: heard is back", x.count(9), 1);
+        due("21: again", x.ship(7, -1), 2);
+        due("21: its course", x.shipOf(2, 1), 0);
+        x.restore();
         write(x, "l3");
         x.restore();
         due("21: the page is not in it", x.count(10), 2);

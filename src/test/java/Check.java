@@ -23,6 +23,10 @@ final class Check {
         return wrong;
     }
 
+    int seen() {
+        return seen;
+    }
+
     void end(String name) {
         System.out.println(name + ": " + seen + " looked at, " + wrong + " wrong");
         if (wrong != 0) {

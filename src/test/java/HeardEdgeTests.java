@@ -299,10 +299,11 @@ public final class HeardEdgeTests extends EdgeSuite {
         edge(17, words, () -> due("next", x.next(), want));
     }
 
-    private static GoingDark known(String text, int by, int facts) {
+    /** Of the first facts it is known that they are so, or that they are not. */
+    private static GoingDark known(String text, int by, int facts, boolean areSo) {
         GoingDark x = at(text);
         for (int fact = 0; fact < facts; fact++) {
-            x.hear(by, fact, false, 0, true);
+            x.hear(by, fact, false, 0, areSo);
         }
         return x;
     }
@@ -315,10 +316,13 @@ public final class HeardEdgeTests extends EdgeSuite {
         nextIs("a LIAR tells as well", at("f1,i2;11"), 8);
         nextIs("a FOOL tells as well", at("f1,o2;11"), 8);
         nextIs("the last of five", at("f1,f2,f3,f4,l5;11"), 32);
-        nextIs("FACT 0 is known: of FACT 1", known("l1,l2;11", 0, 1), 2);
-        nextIs("FACTS 0 to 2 are known: of FACT 3", known("l1,l2;11", 0, 3), 6);
-        nextIs("the last FACT of the last of five", known("f1,f2,f3,f4,l5;11", 4, 3), 38);
-        nextIs("one WORLD is left: the least, 0", known("f1,l2;11", 1, 4), 0);
+        nextIs("FACT 0 is known: of FACT 1", known("l1,l2;11", 0, 1, true), 2);
+        nextIs("FACTS 0 to 2 are known: of FACT 3", known("l1,l2;11", 0, 3, true), 6);
+        nextIs("the last FACT of the last of five", known("f1,f2,f3,f4,l5;11", 4, 3, true), 38);
+        nextIs("FACT 0 is known not to be so: of FACT 1", known("l1,l2;11", 0, 1, false), 2);
+        nextIs("two WORLDS, 0 and 8: of FACT 3", known("l1,l2;11", 0, 3, false), 6);
+        nextIs("WORLD 0 alone is left: the least, 0", known("f1,l2;11", 1, 4, false), 0);
+        nextIs("one WORLD is left: the least, 0", known("f1,l2;11", 1, 4, true), 0);
         edge(17, "one that is dark is not asked", () -> {
             GoingDark x = at("l1,l2;11");
             x.ask(0, 0, false);
@@ -327,7 +331,7 @@ public final class HeardEdgeTests extends EdgeSuite {
             due("lit again", x.next(), 0);
         });
         edge(17, "one that is dark is not asked, though one WORLD is left", () -> {
-            GoingDark x = known("l1,l2;11", 0, 4);
+            GoingDark x = known("l1,l2;11", 0, 4, true);
             x.ask(0, 0, false);
             due("next", x.next(), 8);
         });

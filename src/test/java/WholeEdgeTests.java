@@ -9,6 +9,7 @@ public final class WholeEdgeTests extends EdgeSuite {
         all.image();
         all.restoreRefused();
         all.restoreEach();
+        all.restoreHeard();
         all.restoreLeaves();
         all.restoreAgain();
         all.countRefused();
@@ -162,7 +163,44 @@ public final class WholeEdgeTests extends EdgeSuite {
         isKept("the BREATH", text, GoingDark::breath, x -> x.count(8), 1);
         isKept("HEARD, and no more", text, x -> x.hear(1, 1, false, 0, true), x -> x.count(9), 2);
         isKept("HEARD, and no less", text, GoingDark::forget, x -> x.count(9), 0);
-        isKept("what was HEARD", text, WholeEdgeTests::hearOther, x -> x.worlds(3), 13);
+    }
+
+    /** A fool on 0 was heard of fact 0, plain, on breath 0, to say no: it is so. Then something else is heard. */
+    private void heardIsKept(String words, Call other, Call look, long then, long since) {
+        edge(21, "an IMAGE keeps what was HEARD: " + words, () -> {
+            GoingDark x = at("o3,l6;24");
+            x.hear(0, 0, false, 0, false);
+            due("ahead", look.on(x), then);
+            x.image();
+            x.forget();
+            other.on(x);
+            due("since", look.on(x), since);
+            x.restore();
+            due("as it was", look.on(x), then);
+        });
+    }
+
+    private void restoreHeard() {
+        heardIsKept("who said it", x -> x.hear(1, 0, false, 0, false), x -> x.worlds(2), 1, 0);
+        heardIsKept("of which FACT", x -> x.hear(0, 2, false, 0, false), x -> x.worlds(2), 1, 4);
+        heardIsKept("TURNED or not", x -> x.hear(0, 0, true, 0, false), x -> x.worlds(2), 1, 0);
+        heardIsKept("on which BREATH", x -> x.hear(0, 0, false, 1, false), x -> x.worlds(2), 1, 0);
+        heardIsKept("yes or no", x -> x.hear(0, 0, false, 0, true), x -> x.worlds(2), 1, 0);
+        edge(21, "an IMAGE keeps what was HEARD: the eighth, too", () -> {
+            GoingDark x = at("f3,l6;24");
+            for (int n = 0; n < 7; n++) {
+                x.hear(0, 0, false, 0, true);
+            }
+            x.hear(1, 3, true, 0, false);
+            x.image();
+            x.forget();
+            for (int n = 0; n < 8; n++) {
+                x.hear(1, 1, false, 1, true);
+            }
+            due("since", x.worlds(2), 2);
+            x.restore();
+            due("as it was", x.worlds(2), 8);
+        });
     }
 
     private static long wreck(GoingDark x) {
@@ -174,11 +212,6 @@ public final class WholeEdgeTests extends EdgeSuite {
     private static long sevenBreaths(GoingDark x) {
         breaths(x, 7);
         return x.count(8);
-    }
-
-    private static long hearOther(GoingDark x) {
-        x.forget();
-        return x.hear(1, 1, false, 9, false);
     }
 
     private void restoreLeaves() {

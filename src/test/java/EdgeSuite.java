@@ -46,24 +46,24 @@ abstract class EdgeSuite {
         for (Scene scene : scenes) {
             GoingDark x = scene.make();
             due("on " + scene, call.on(x), want);
-            goesOnAs(scene, x);
+            isAsTwin(scene, "going on", Scene.goOn(x), Scene.goOn(scene.make()));
+            GoingDark y = scene.make();
+            call.on(y);
+            isAsTwin(scene, "going back", Scene.goBack(y), Scene.goBack(scene.make()));
         }
     }
 
     final void changesNothing(Call call, Scene... scenes) {
         for (Scene scene : scenes) {
+            refused(call.on(scene.make()), call, scene);
             GoingDark x = scene.make();
-            long first = call.on(x);
-            due("told again on " + scene, call.on(x), first);
-            goesOnAs(scene, x);
+            due("told again on " + scene, call.on(x), call.on(x));
         }
     }
 
-    private void goesOnAs(Scene scene, GoingDark x) {
-        long[] got = Scene.goOn(x);
-        long[] want = Scene.goOn(scene.make());
+    private void isAsTwin(Scene scene, String how, long[] got, long[] want) {
         for (int i = 0; i < want.length; i++) {
-            due("on " + scene + ", then answer " + i + " of its going on", got[i], want[i]);
+            due("on " + scene + ", then answer " + i + " of its " + how, got[i], want[i]);
         }
     }
 

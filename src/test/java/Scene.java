@@ -98,6 +98,11 @@ enum Scene {
         x.letter('i');
     }
 
+    /** The image first: what looks at an object ahead of that might hide that it was touched. */
+    static long[] goBack(GoingDark x) {
+        return new long[] {x.restore(), x.digest(), x.breath(), x.digest(), x.restore(), x.digest()};
+    }
+
     /** The answers of calls that together see all of an object, what its image keeps and its page too. */
     static long[] goOn(GoingDark x) {
         long[] told = new long[64];

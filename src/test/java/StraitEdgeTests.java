@@ -633,7 +633,20 @@ public final class StraitEdgeTests extends EdgeSuite {
             breaths(x, 40);
             due("40 BREATHS later", x.about(0, 4), NONE);
         });
-        edge(6, "WHEN: nobody is ASKED until then, not even by the asking", () -> {
+        edge(6, "WHEN: nobody is ASKED until then, so it is the same for each KIND and by all FACTS", () -> {
+            for (int kind = 0; kind < 5; kind++) {
+                for (int is = 0; is < 2; is++) {
+                    GoingDark x = at("l2," + KINDS.charAt(kind) + "7;29");
+                    x.ship(0, 1);
+                    for (int fact = 0; fact < 4; fact++) {
+                        x.fact(fact, is == 1);
+                    }
+                    due("the KIND " + kind + ", FACTS " + is, x.about(1, 4), 9);
+                    due("the other, FACTS " + is, x.about(0, 4), 4);
+                }
+            }
+        });
+        edge(6, "WHEN: no BREATH goes by when it is told", () -> {
             GoingDark x = passing(9);
             x.about(1, 4);
             due("BREATH", x.count(8), 0);
